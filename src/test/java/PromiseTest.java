@@ -302,6 +302,8 @@ public final class PromiseTest {
         due(x.itch(2), -2);
         x.stifle(0, 2);
         due(x.itch(0), 12);
+        due(of(HEAD + "nose 0 holds 9;").itch(0), 0);
+        due(of(HEAD + "nose 5 holds 9;").itch(0), 5);
     }
 
     static void p16() {
@@ -321,6 +323,7 @@ public final class PromiseTest {
         due(x.gave(2), 2);
         due(x.gave(3), -2);
         due(of(QUIET).gave(0), 0);
+        due(of(HEAD + "nose 1 holds 2; nose 1 holds 2; net 0 1;").gave(0), 0);
         due(of(CHAIN.replace("net 0 1 ;", "").replace("nose 0 holds 5 ; nose", "nose 1 holds 2 ; nose")).gave(1), 0);
     }
 
@@ -328,6 +331,7 @@ public final class PromiseTest {
         due(of(TWO).worst(), 0);
         due(of(QUIET).worst(), -1);
         due(of(HEAD).worst(), -1);
+        due(of(HEAD + "nose 1 holds 9; nose 1 holds 5;").worst(), 1);
         due(of(HEAD + "nose 0 holds 1; nose 5 holds 5; nose 5 holds 5;").worst(), 1);
         due(new PepperPolicy().worst(), -2);
     }
@@ -336,6 +340,7 @@ public final class PromiseTest {
         due(of(TWO).chorus(), 1);
         due(of(CHAIN).chorus(), 3);
         due(of(QUIET).chorus(), 0);
+        due(of(HEAD.replace("dust 1", "dust 0") + "nose 9 holds 81; gust 9 at 0;").chorus(), 1);
         due(new PepperPolicy().chorus(), -2);
     }
 
@@ -430,6 +435,7 @@ public final class PromiseTest {
         due(x.bears(-1), -2);
         due(of(QUIET).bears(0), 4);
         due(of(QUIET).bears(1), 1);
+        due(of(HEAD.replace("5 dust", "1 dust") + "nose 5 holds 5;").bears(0), 6);
         due(of("house minutes 11 dust 1 law 0 money 0 odds 0; nose 9 holds 9;").bears(0), -1);
         due(of("house minutes 11 dust 0 law 0 money 0 odds 0; nose 7 holds 9; gust 7 at 3; gust 7 at 9;").bears(0), 99);
         x = of("house minutes 1 dust 9 law 0 money 0 odds 0; nose 9 holds 9;");
@@ -453,6 +459,7 @@ public final class PromiseTest {
         due(x.spreads(2), 0);
         due(x.spreads(3), -2);
         due(of(TWO).spreads(0), 0);
+        due(of(HEAD + "nose 0 holds 5; nose 5 holds 5; net 0 1;").spreads(1), 1);
     }
 
     static void p32() {
@@ -542,6 +549,7 @@ public final class PromiseTest {
         due(of(TWO.replace("sum 30", "sum 11")).dear(), 0);
         due(of(TWO.replace("pays 4", "pays 30").replace("pays 2", "pays 9")).dear(), -1);
         due(of(HEAD).dear(), -1);
+        due(of(TWO.replace("pays 4", "pays 30").replace("pays 2", "pays 8")).dear(), 1);
         due(new PepperPolicy().dear(), -2);
     }
 
@@ -591,6 +599,7 @@ public final class PromiseTest {
         due(x.takes(0), 0);
         due(of(TWO.replace("sum 30", "sum 10")).takes(0), 1);
         due(of(QUIET).takes(0), -1);
+        due(of(TWO.replace("pays 4", "pays 30").replace("pays 2", "pays 8")).takes(0), 1);
         due(of(TWO.replace("pays 4", "pays 30").replace("pays 2", "pays 9")).takes(0), -1);
     }
 
@@ -614,6 +623,7 @@ public final class PromiseTest {
         String same = "policy 0 from 0 to 5 sum 9 pays 2 ;";
         due(of(TWO.substring(0, TWO.indexOf("policy")) + same + same).price(0), 3);
         due(of(TWO.substring(0, TWO.indexOf("policy")) + same + same).price(1), 2);
+        due(of(HEAD + "nose 1 holds 4; nose 0 holds 9; policy 1 from 0 to 4 sum 9 pays 0;").price(0), 9);
         due(x.policy(0, 4), 4);
     }
 
@@ -625,6 +635,7 @@ public final class PromiseTest {
         due(of(QUIET + "policy 0 from 0 to 2 sum 9 pays 2;").hold(0), 0);
         due(of(CHAIN + "policy 0 from 3 to 9 sum 9 pays 2;").hold(0), 0);
         due(of(CHAIN + "policy 0 from 1 to 9 sum 9 pays 2;").hold(0), 2);
+        due(of(CHAIN + "policy 0 from 0 to 9 sum 9 pays 2;").hold(0), 3);
         // 2 4 6: held in 2 he sneezes in 3 and has 2 4 then; else he has 3 5 7 behind 2, and 4 and 5 are held.
         String late = "house minutes 7 dust 2 law 0 money 0 odds 0; nose 1 holds 5; gust 1 at 3; policy 0 from 4 to 5 sum 1 pays 0;";
         due(of(late).hold(0), 1);
