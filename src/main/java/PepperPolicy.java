@@ -1599,7 +1599,7 @@ public final class PepperPolicy {
         }
     }
 
-    /** The mean over all puffs in some minutes, as a fraction in lowest terms. */
+    /** The mean over all puffs in the first minutes, as a fraction in lowest terms; there are none behind these. */
     private static final class Puffs {
         long above;
         long below;
@@ -1627,7 +1627,8 @@ public final class PepperPolicy {
                 for (int m = from; m < n; m++) {
                     trial.dusts[m] = day.dusts[m] + (hasBit(puffs, n - 1 - m) ? BY_PUFF : 0);
                 }
-                trial.live(from, n);
+                // A claim that ruins may be paid ahead of sneezes that count for it: ruin is known by the whole day.
+                trial.live(from, kind == RUINS ? day.minutes : n);
                 above += weights[Integer.bitCount(puffs)] * worth(kind, index, n);
             }
             below = 1;

@@ -779,7 +779,7 @@ final class PlainPolicy {
 
     private BigInteger mean(int kind, int index, int n, int m, TreeSet<Integer> puffs) {
         if (m == n) {
-            Lived d = live(home, puffs, n);
+            Lived d = live(home, puffs, kind == 2 ? home.minutes : n);
             if (kind == 0) return BigInteger.valueOf(d.sneezes.get(index).isEmpty() ? 0 : 1);
             if (kind == 1) return BigInteger.valueOf(claimOf(home, d, index)[0]);
             return BigInteger.valueOf(ruinOf(home, d, n) < 0 ? 0 : 1);
