@@ -303,6 +303,9 @@ public final class Bounds1To32Test extends Sentences {
         due(x.itch(0), 5);
         due(x.stifle(0, 3), 10);
         due(x.itch(0), 10);
+        // At the end of minute 0, or of the last: 3 and 0 of 6, or 1 .. 30 of 31.
+        due(of("house minutes 2 dust 1 law 0 money 0 odds 0;nose 3 holds 6;").itch(0), 3);
+        due(of("house minutes 30 dust 1 law 0 money 0 odds 0;nose 1 holds 31;").itch(0), 30);
     }
 
     @Says("-2 likewise.")
@@ -353,6 +356,7 @@ public final class Bounds1To32Test extends Sentences {
         due(of(HEAD + "nose 1 holds 5;".repeat(6)).chorus(), 6);
         due(of(HEAD + "nose 9 holds 45;".repeat(2) + "nose 9 holds 9;").chorus(), 3);
         due(of("house minutes 1 dust 1 law 0 money 0 odds 0;nose 1 holds 1;").chorus(), 1);
+        due(of("house minutes 30 dust 1 law 0 money 0 odds 0;nose 1 holds 30;nose 1 holds 30;").chorus(), 2);
     }
 
     @Says("The most MINUTES one behind the other in which nobody SNEEZES. -2: there is no HOUSE.")
@@ -501,6 +505,7 @@ public final class Bounds1To32Test extends Sentences {
         due(none().clean(), -2);
         due(of(HEAD).clean(), 9);
         due(of(HEAD + "nose 1 holds 46;").clean(), 9);
+        due(of("house minutes 30 dust 1 law 0 money 0 odds 0;nose 1 holds 90;").clean(), 2);
         due(of(HEAD + "nose 1 holds 45;").clean(), 8);
         due(of(HEAD + "nose 1 holds 5;").clean(), 0);
         due(of(HEAD + "nose 1 holds 6;nose 1 holds 99;").clean(), 1);

@@ -96,6 +96,8 @@ public final class Bounds33To73Test extends Sentences {
             due(of(text).count(3), Integer.parseInt(money));
         }
         due(of(ALWAYS + "policy 0 from 0 to 2 sum 9 pays 8;").reserve(), 1);
+        due(of(ALWAYS + "policy 0 from 4 to 4 sum 9 pays 0;").reserve(), 9);
+        due(of(LONG + "nose 9 holds 1;policy 0 from 29 to 29 sum 9 pays 2;").reserve(), 7);
         due(of(ALWAYS + "policy 0 from 0 to 2 sum 9 pays 9;").reserve(), 0);
         due(of(ALWAYS + "policy 0 from 0 to 2 sum 9 pays 99;").reserve(), 0);
     }
@@ -127,6 +129,10 @@ public final class Bounds33To73Test extends Sentences {
         PepperPolicy x = of(text);
         x.stifle(0, 0);
         due(x.law(), 3);
+        // By law 1 nothing is paid, by law 3 half, by the others all.
+        PepperPolicy y = of(text + "gust 1 at 1;gust 1 at 2;");
+        y.stifle(0, 0);
+        due(y.law(), 1);
         // Law 2 is never alone the best: a claim by it is 0 or no less than by law 0.
         due(of(text.replace("from 0 to 2", "from 2 to 2")).law(), 0);
     }
@@ -167,6 +173,13 @@ public final class Bounds33To73Test extends Sentences {
         due(of(ALWAYS + p + "5 pays 50;" + p + "9 pays 4;").price(0), 1);
         due(of(ALWAYS + p + "5 pays 50;" + p + "9 pays 3;").price(0), 0);
         due(of(ALWAYS + p + "9 pays 9;" + p + "9 pays 50;").price(1), 9);
+        // Six of six: the last is taken by the last.
+        String six = HEAD + "nose 0 holds 1;".repeat(5) + "nose 9 holds 1;" + (p + "9 pays 3;").repeat(5);
+        due(of(six + p + "20 pays 0;").price(5), 14);
+        due(of(six + p + "20 pays 0;").price(0), 0);
+        due(of(six + p + "20 pays 20;").price(0), 4);
+        due(of(six + p + "20 pays 14;").price(0), 4);
+        due(of(six + p + "20 pays 20;").price(4), 3);
         // One who has no other good one pays most.
         PepperPolicy x = of(HEAD + "nose 9 holds 1;nose 1 holds 5;policy 0 from 0 to 0 sum 50 pays 0;policy 0 from 0 to 4 sum 20 pays 7;");
         due(x.price(1), 20);
@@ -187,6 +200,14 @@ public final class Bounds33To73Test extends Sentences {
         due(of(ALWAYS + "policy 0 from 4 to 29 sum 1 pays 0;").hold(0), 1);
         due(of(HEAD + "nose 1 holds 5;policy 0 from 0 to 4 sum 1 pays 0;").hold(0), 1);
         due(of(HEAD + "nose 1 holds 6;policy 0 from 0 to 4 sum 1 pays 0;").hold(0), 0);
+        // One of a policy behind the day needs none, whatever was asked ahead of it.
+        PepperPolicy x = of(ALWAYS + "policy 0 from 3 to 29 sum 1 pays 0;policy 0 from 5 to 29 sum 1 pays 0;");
+        due(x.hold(0), 2);
+        due(x.hold(1), 0);
+        due(x.holds(0), 24);
+        due(x.holds(1), 0);
+        // He sneezes in 1 and in 3, by the gust, and has 2 in 4.
+        due(of(HEAD + "nose 2 holds 3;gust 3 at 3;policy 0 from 4 to 9 sum 1 pays 0;").hold(0), 0);
         // 2 4 6 of 5: held in 2, he would sneeze in 3 too, if he were not held; not held in 2, he has 2 4 in 3 and 4.
         due(of(HEAD + "nose 2 holds 5;policy 0 from 3 to 4 sum 1 pays 0;").hold(0), 0);
         due(of(HEAD + "nose 2 holds 5;policy 0 from 2 to 4 sum 1 pays 0;").hold(0), 3);
@@ -291,6 +312,10 @@ public final class Bounds33To73Test extends Sentences {
     static void p50_when() {
         refusals(PepperPolicy::when);
         due(asks(LONG).when(1), (1 << 30) - 1);
+        PepperPolicy x = asks(QUIET, 0, 1);
+        due(x.when(1), 3);
+        x.write(1, 1, 0);
+        due(x.when(1), 1);
         due(asks(QUIET, 1, 0).when(1), 0);
         due(asks(QUIET, 0, 0).when(1), 1);
         due(asks(QUIET, 0, 1).when(1), 3);
@@ -314,6 +339,8 @@ public final class Bounds33To73Test extends Sentences {
         due(asks(HEAD + "nose 0 holds 1;").ask(1), -1);
         due(asks(QUIET, 1, 0).ask(1), -1);
         due(asks(QUIET, 0, 1).ask(1), -1);
+        // Six who sneeze in each of thirty minutes tell nothing.
+        due(asks(LONG + "nose 9 holds 1;".repeat(6)).ask(1), -1);
         // A gust of 5 or more makes the first sneeze, of 9 the second and the third: 27 in 4 and 5, or in 8 and 1, of each minute.
         String text = "house minutes 3 dust 0 law 0 money 0 odds 0;";
         due(asks(text + "nose 1 holds 5;nose 1 holds 9;nose 1 holds 9;").ask(1), 0);
@@ -328,6 +355,10 @@ public final class Bounds33To73Test extends Sentences {
         due(asks(HEAD).leaves(1), 45);
         due(asks(HEAD + "nose 0 holds 1;").leaves(1), 45);
         due(asks(QUIET, 1, 0).leaves(1), 0);
+        PepperPolicy x = asks(QUIET, 0, 1);
+        for (int i = 0; i < 3; i++) due(x.leaves(1), 8);
+        due(x.ask(1), -1);
+        due(asks(LONG + "nose 9 holds 1;".repeat(6)).leaves(1), 270);
         String text = "house minutes 3 dust 0 law 0 money 0 odds 0;";
         due(asks(text + "nose 1 holds 5;nose 1 holds 9;").leaves(1), 15);
         due(asks(text + "nose 1 holds 6;nose 1 holds 9;").leaves(1), 15);
@@ -375,9 +406,14 @@ public final class Bounds33To73Test extends Sentences {
         // Told twice it is there once more.
         due(of(text + "net 0 1;net 1 0;").cut(0), 9);
         due(of(text + "net 0 1;net 1 0;").cut(1), 9);
+        // Asked of, it is there again.
         PepperPolicy x = of(text + "net 0 1;");
-        x.cut(0);
+        due(x.spreads(0), 2);
+        due(x.dull(1), -1);
+        due(x.cut(0), 5);
         due(x.all(), 9);
+        due(x.spreads(0), 2);
+        due(x.dull(1), -1);
     }
 
     @Says("The NET without which that is least, if less than now, the first of several. NONE: none; -2: there is no HOUSE.")
@@ -579,6 +615,7 @@ public final class Bounds33To73Test extends Sentences {
         due(x.luck(1, 6, 0), 0);
         due(x.luck(0, 20, 1), 0);
         due(x.luck(2000000000, 1, 0), 1);
+        due(of("house minutes 1 dust 0 law 0 money 5 odds 5;nose 1 holds 3;policy 0 from 0 to 29 sum 1 pays 0;").luck(0, 1, 0), 1);
         due(of("house minutes 1 dust 0 law 0 money 5 odds 10;nose 1 holds 3;policy 0 from 0 to 0 sum 9 pays 0;").luck(2000000000, 20, 0), 20);
         due(of("house minutes 1 dust 0 law 0 money 5 odds 0;nose 1 holds 3;policy 0 from 0 to 0 sum 9 pays 0;").luck(0, 20, 0), 0);
     }
@@ -685,6 +722,14 @@ public final class Bounds33To73Test extends Sentences {
         due(x.count(9), 1);
         due(x.back(1), 0);
         due(x.sneezes(0), 8 + 32);
+        // Its acts are those done ahead of it, whatever was done in their place.
+        due(x.undo(), 0);
+        x.sniff(1, 0);
+        x.sniff(1, 1);
+        due(x.back(1), 0);
+        due(x.sneezes(0), 8 + 32);
+        due(x.sneezes(1), 16);
+        due(x.count(9), 1);
         // An image of no house is one.
         PepperPolicy y = none();
         due(y.back(0), -6);

@@ -239,6 +239,9 @@ public final class TermsBoundsTest extends Sentences {
         faultOf("h ouse", 1, 0);
         faultOf("hous", 1, 0);
         faultOf("houses", 1, 0);
+        faultOf("housez", 1, 0);
+        faultOf("housea", 1, 0);
+        faultOf("house zminutes", 1, 6);
         faultOf(HEAD + "a", 1, HEAD.length());
         faultOf(HEAD + "z", 1, HEAD.length());
         faultOf(HEAD + "noze 1 holds 1;", 1, HEAD.length());
