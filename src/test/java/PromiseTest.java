@@ -39,15 +39,7 @@ public final class PromiseTest {
     }
 
     private static void put(PepperPolicy x, String text) {
-        x.end(0);
-        for (int i = 0; i < text.length(); i += 20) {
-            int[] n = new int[5];
-            for (int j = 0; j < 20; j++) {
-                n[j / 4] = n[j / 4] << 8 | (i + j < text.length() ? text.charAt(i + j) : 'z');
-            }
-            x.feed(n[0], n[1], n[2], n[3], n[4]);
-        }
-        x.end(text.length());
+        Told.put(x, text);
     }
 
     private static PepperPolicy of(String text) {

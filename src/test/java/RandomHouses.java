@@ -52,7 +52,7 @@ final class RandomHouses {
             int at = text.length() == 0 ? 0 : random.nextInt(text.length());
             switch (in(0, 6)) {
                 case 0 -> text.setLength(at);
-                case 1 -> text.deleteCharAt(Math.min(at, text.length() - 1));
+                case 1 -> text.delete(at, at + 1);
                 case 2 -> text.insert(at, " ;az9\n\t#A\u00e9".charAt(in(0, 9)));
                 case 3 -> text.insert(at, new String[] {" house ", "nose ", " 99999999999999 ", "007", "net 0 0;", " - "}[in(0, 5)]);
                 case 4 -> replaceNumber(text, at);

@@ -767,6 +767,13 @@ public final class TermsBoundsTest extends Sentences {
     @Says("FRACTIONS are told in lowest terms (0 / 1).")
     static void t9_lowestTerms() {
         String text = "house minutes 8 dust 0 law 0 money 0 odds #;nose 1 holds 24;policy 0 from 0 to 7 sum 50 pays 0;";
+        long[][] tenths = {{0, 1}, {1, 10}, {1, 5}, {3, 10}, {2, 5}, {1, 2}, {3, 5}, {7, 10}, {4, 5}, {9, 10}, {1, 1}};
+        for (int odds = 0; odds <= 10; odds++) {
+            PepperPolicy one = of("house minutes 1 dust 0 law 0 money 0 odds " + odds + ";nose 1 holds 3;policy 0 from 0 to 0 sum 1 pays 0;");
+            fraction(one.chance(0, 0, 0), one.chance(0, 0, 1), tenths[odds][0], tenths[odds][1]);
+            fraction(one.fair(0, 0, 0), one.fair(0, 0, 1), tenths[odds][0], tenths[odds][1]);
+            fraction(one.risk(0, 0), one.risk(0, 1), tenths[odds][0], tenths[odds][1]);
+        }
         PepperPolicy x = of(text.replace("#", "5"));
         fraction(x.chance(0, 7, 0), x.chance(0, 7, 1), 1, 256);
         fraction(x.fair(0, 7, 0), x.fair(0, 7, 1), 25, 128);
