@@ -85,7 +85,7 @@ public final class PepperPolicy {
     private final Ledger ledger = new Ledger();
     private final Holding holding = new Holding();
     private final Suspects suspects = new Suspects();
-    private final Puffs puffs = new Puffs(house, day, trial, ledger);
+    private final Puffs puffs = new Puffs();
 
     public PepperPolicy() {
         for (int k = 0; k < MOST_IMAGES; k++) {
@@ -726,7 +726,7 @@ public final class PepperPolicy {
         if (!isPerson(person) || !isPuffMinute(minute) || what < 0 || what > 1) {
             return NO_SUCH;
         }
-        puffs.reckon(SNEEZES_AT_ALL, person, minute);
+        puffs.reckon(house, day, SNEEZES_AT_ALL, person, minute);
         return what == 0 ? puffs.above : puffs.below;
     }
 
@@ -734,7 +734,7 @@ public final class PepperPolicy {
         if (!isPolicy(policy) || !isPuffMinute(minute) || what < 0 || what > 1) {
             return NO_SUCH;
         }
-        puffs.reckon(CLAIMS, policy, minute);
+        puffs.reckon(house, day, CLAIMS, policy, minute);
         return what == 0 ? puffs.above : puffs.below;
     }
 
@@ -742,7 +742,7 @@ public final class PepperPolicy {
         if (!isPuffMinute(minute) || what < 0 || what > 1) {
             return NO_SUCH;
         }
-        puffs.reckon(RUINS, NONE, minute);
+        puffs.reckon(house, day, RUINS, NONE, minute);
         return what == 0 ? puffs.above : puffs.below;
     }
 
@@ -1009,7 +1009,8 @@ public final class PepperPolicy {
 
         /** The minutes of a policy as bits, those behind the house's last minute too. */
         int window(int policy) {
-            return firstMinutes(ofPolicy(policy, TO) + 1) & ~firstMinutes(ofPolicy(policy, FROM));
+            int base = POLICY_NUMBERS * policy;
+            return (2 << policies[base + TO]) - (1 << policies[base + FROM]);
         }
 
         int gustMinutes() {
@@ -1604,19 +1605,10 @@ public final class PepperPolicy {
         long above;
         long below;
         private final long[] weights = new long[LAST_PUFF_MINUTE + 2];
-        private final House house;
-        private final Day day;
-        private final Day trial;
-        private final Ledger ledger;
+        private final Day trial = new Day();
+        private final Ledger ledger = new Ledger();
 
-        Puffs(House house, Day day, Day trial, Ledger ledger) {
-            this.house = house;
-            this.day = day;
-            this.trial = trial;
-            this.ledger = ledger;
-        }
-
-        void reckon(int kind, int index, int minute) {
+        void reckon(House house, Day day, int kind, int index, int minute) {
             int n = minute + 1;
             weigh(n, house.counts[ODDS]);
             trial.copyFrom(day);
@@ -1629,7 +1621,7 @@ public final class PepperPolicy {
                 }
                 // A claim that ruins may be paid ahead of sneezes that count for it: ruin is known by the whole day.
                 trial.live(from, kind == RUINS ? day.minutes : n);
-                above += weights[Integer.bitCount(puffs)] * worth(kind, index, n);
+                above += weights[Integer.bitCount(puffs)] * worth(house, kind, index, n);
             }
             below = 1;
             for (int m = 0; m < n; m++) {
@@ -1648,7 +1640,7 @@ public final class PepperPolicy {
             }
         }
 
-        private long worth(int kind, int index, int n) {
+        private long worth(House house, int kind, int index, int n) {
             if (kind == SNEEZES_AT_ALL) {
                 return trial.sneezed[index] != 0 ? 1 : 0;
             }
